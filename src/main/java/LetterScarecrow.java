@@ -208,7 +208,7 @@ public final class LetterScarecrow {
 
     public int lies(int bed, int k) throws NoSuchElementException, IllegalArgumentException {
         needOneOf(bed, plan.beds);
-        needRange(k, 0, Integer.MAX_VALUE);
+        needPlace(k);
         return now.lyingAt(bed, k);
     }
 
@@ -219,7 +219,7 @@ public final class LetterScarecrow {
     }
 
     public int grown(int k) throws IllegalArgumentException {
-        needRange(k, 0, Integer.MAX_VALUE);
+        needPlace(k);
         return k < now.ripeMany && k < MOST_GROWN ? now.ripe[k] : NONE;
     }
 
@@ -275,7 +275,7 @@ public final class LetterScarecrow {
     }
 
     public int stuffed(int k) throws IllegalArgumentException {
-        needRange(k, 0, Integer.MAX_VALUE);
+        needPlace(k);
         stuffing.find(now, plan);
         return k < stuffing.places && k < MOST_LETTERS ? stuffing.order[k] : NONE;
     }
@@ -481,7 +481,7 @@ public final class LetterScarecrow {
         needRange(years, 1, 48);
         needRange(what, 0, 2);
         needRange(bed, 0, plan.beds - 1);
-        int fewest = Integer.MAX_VALUE;
+        int fewest = MOST_LETTERS * MOST_WORDS;
         int most = 0;
         int having = 0;
         for (int i = 0; i < many; i++) {
@@ -547,6 +547,13 @@ public final class LetterScarecrow {
         }
     }
 
+    private void needPlace(int k) {
+        if (k < 0) {
+            misused++;
+            throw new IllegalArgumentException();
+        }
+    }
+
     private void needOneOf(int number, int many) {
         if (number < 0 || number >= many) {
             missing++;
@@ -599,8 +606,10 @@ public final class LetterScarecrow {
             for (int n = 1; n <= MOST_TRIED; n++) {
                 if (notes.isRight(now, plan, letter, n)) {
                     int last = now.lastAfter(plan, bed, letter, n);
-                    row[last]++;
-                    most = Math.max(most, row[last]);
+                    if (last >= 0 && last <= NOTHING) {
+                        row[last]++;
+                        most = Math.max(most, row[last]);
+                    }
                 }
             }
         }
@@ -737,7 +746,9 @@ public final class LetterScarecrow {
         }
 
         void need(char sign) {
-            if (!takes(sign)) {
+            if (peek() == sign) {
+                at++;
+            } else {
                 blame(CANNOT_STAND);
             }
         }
@@ -904,7 +915,7 @@ public final class LetterScarecrow {
             text.needEnd();
         }
 
-        void readSum(Tape text, int open) {
+        private void readSum(Tape text, int open) {
             readProduct(text, open);
             for (int i = 0; i < LAW_BYTES; i++) {
                 int step = text.takes('+') ? PLUS : text.takes('-') ? LESS : 0;
@@ -916,7 +927,7 @@ public final class LetterScarecrow {
             }
         }
 
-        void readProduct(Tape text, int open) {
+        private void readProduct(Tape text, int open) {
             readUnit(text, open);
             for (int i = 0; i < LAW_BYTES; i++) {
                 int step = text.takes('*') ? TIMES : text.takes('/') ? OVER : text.takes('%') ? REST : 0;
@@ -928,7 +939,7 @@ public final class LetterScarecrow {
             }
         }
 
-        void readUnit(Tape text, int open) {
+        private void readUnit(Tape text, int open) {
             if (text.isAtNumber()) {
                 add(text.number(0, MOST_NUMBER));
             } else if (text.takes('(')) {
@@ -942,7 +953,7 @@ public final class LetterScarecrow {
             }
         }
 
-        void readOpen(Tape text, int open, int step) {
+        private void readOpen(Tape text, int open, int step) {
             if (open >= MOST_OPEN) {
                 text.blame(TOO_MANY);
                 return;
@@ -980,11 +991,6 @@ public final class LetterScarecrow {
             values[4] = lies;
             values[5] = year;
             values[6] = letter;
-            int run = result();
-            return run < 0 ? 0 : run > MOST_RUN ? MOST_RUN : run;
-        }
-
-        int result() {
             int top = 0;
             for (int i = 0; i < length && i < LAW_BYTES; i++) {
                 int step = code[i];
@@ -998,7 +1004,7 @@ public final class LetterScarecrow {
                     stack[top - 1] = joined(step, stack[top - 1], stack[top]);
                 }
             }
-            return stack[0];
+            return stack[0] < 0 ? 0 : stack[0] > MOST_RUN ? MOST_RUN : stack[0];
         }
 
         static int joined(int step, int a, int b) {
@@ -1052,14 +1058,14 @@ public final class LetterScarecrow {
             text.needEnd();
         }
 
-        void readSteps(Tape text, Plan plan, int open) {
+        private void readSteps(Tape text, Plan plan, int open) {
             for (int i = 0; i < WORK_BYTES && !text.isAtEnd() && text.peek() != ']'; i++) {
                 readStep(text, plan, open);
                 text.need(';');
             }
         }
 
-        void readStep(Tape text, Plan plan, int open) {
+        private void readStep(Tape text, Plan plan, int open) {
             if (text.takes("wind")) {
                 add(WIND, text.number(1, MOST_WIND), 0);
             } else if (text.takes("rain")) {
@@ -1080,7 +1086,7 @@ public final class LetterScarecrow {
             }
         }
 
-        void readAgain(Tape text, Plan plan, int open) {
+        private void readAgain(Tape text, Plan plan, int open) {
             if (open >= MOST_OPEN) {
                 text.blame(TOO_MANY);
                 return;
