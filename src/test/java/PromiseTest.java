@@ -187,6 +187,8 @@ public final class PromiseTest {
         gardenFault("bed 1 2;", 1, 6);
         gardenFault("bed x;", 1, 4);
         gardenFault("beds 1;", 1, 0);
+        gardenFault("beda1;", 1, 0);
+        gardenFault("bedz1;", 1, 0);
         gardenFault("  be 1;", 1, 2);
         gardenFault("Bed 1;", 1, 0);
         gardenFault(";", 1, 0);
@@ -906,6 +908,58 @@ public final class PromiseTest {
         due("nothing lies", crow.told(6), 0);
     }
 
+    private static void beginningAnew() {
+        String garden = "bed 0;bed 1;letter 0 1 2;letter 1 3 4;reader 0;reader 1;";
+        LetterScarecrow crow = crow(garden);
+        long first = fingerprint(crow);
+        law(crow, "8");
+        work(crow, "tie 1;wind 30;rain 20;year;walk 0 1;walk 1 0;eat 0;tie 0;");
+        due("changed", fingerprint(crow) == first ? 1 : 0, 0);
+        crow.garden(fed(crow, garden));
+        due("as at first", fingerprint(crow), first);
+        LetterScarecrow other = crow("bed 0;letter 0 1;letter 0 2;");
+        work(other, "tie 1;rain 1;year;");
+        other.image();
+        other.undo();
+        work(other, "tie 0;rain 1;year;");
+        due("another one GROWN", other.grown(0), 2);
+        other.restore();
+        due("the one of the IMAGE", other.grown(0), 1);
+        other.garden(fed(other, "bed 5;bed"));
+        other.garden(fed(other, "bed 6;"));
+        due("nothing is left of a text with a FAULT", other.told(0) * 100 + other.bed(0, 0), 106);
+    }
+
+    /** The least and greatest numbers that are still fine. */
+    private static void edges() {
+        LetterScarecrow crow = crow("bed 1;bed 0;letter 0 0;letter 0 15;letter 1 3 3;reader 0;");
+        due("runs(0, 1)", crow.runs(0, 1), 1);
+        due("rains(0, 0, 1)", crow.rains(0, 0, 1), 1);
+        due("rains(0, 15, 20)", crow.rains(0, 15, 20), 1);
+        due("news(0, 1)", crow.news(0, 1), 1 + 8 + 32768);
+        due("news(0, 30)", crow.news(0, 30), 1 + 8 + 32768);
+        due("wind 1", work(crow, "wind 1;tie 2;rain 1;"), 3);
+        due("often 0", crow.often(0) * 100 + crow.often(1), 1);
+        due("drains, one left", crow.drains(1), 4);
+        due("news of one LETTER, the others being empty", crow.news(0, 30), 0);
+        due("no SEAMS of one", crow.stuff(), 0);
+        due("its place", crow.stuffed(0), 2);
+        due("a BED with any", crow.span(1, 10, 0, 1, 2, 0), 10);
+        due("a BED without", crow.span(1, 10, 0, 2, 2, 0), 0);
+        due("none left of none", crow("bed 0;letter 0 1;").span(3, 4, 16, 1, 1, 0), 0);
+        book(crow, "0 15;");
+        due("what lies last now", crow.fits(0), 27);
+        book(crow, "0 0;");
+        due("what lies there, but not last", crow.fits(0), 0);
+        work(crow, "eat 0;");
+        book(crow, "0 16;");
+        due("nothing lies there", crow.fits(0), 27);
+        due("look(1)", crow.look(0) * 100 + crow.look(1), 118);
+        LetterScarecrow one = crow("bed 0;bed 0;letter 1 1;reader 0;");
+        // rain of 9; READER 9988 % 1 walks to BED 22117 % 2
+        due("a SUMMER with one READER", one.summer(0, 16, 1, 3), 2);
+    }
+
     private static void counting() {
         LetterScarecrow crow = crow("bed 3;reader 0;");
         missing("bed(1, 9)", () -> crow.bed(1, 9));
@@ -962,6 +1016,8 @@ public final class PromiseTest {
         draining();
         summers();
         imaging();
+        beginningAnew();
+        edges();
         counting();
         System.out.println(checks + " answers looked at, " + wrong + " not as due");
         System.exit(wrong == 0 ? 0 : 1);
