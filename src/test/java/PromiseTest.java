@@ -203,6 +203,8 @@ public final class PromiseTest {
         gardenFault("bed 0;letter 0", 1, 14);
         gardenFault("bed 0;letter 0 16;", 2, 15);
         gardenFault("bed 0;letter 0 1 2 3 4 5 6 7 8 9;", 3, 31);
+        gardenFault("bed 0;letter 0 1 2 3 4 5 6 7 8 0;", 3, 31);
+        gardenFault("bed 0;letter 0 1 2 3 4 5 6 7 8 15;", 3, 31);
         gardenFault("bed 0;letter 0 1 2 3 4 5 6 7 8 16;", 2, 31);
         gardenFault("bed 0;letter 0 1 2 3 4 5 6 7 8 x;", 1, 31);
         gardenFault("reader 0;bed 0;", 2, 7);
@@ -940,7 +942,10 @@ public final class PromiseTest {
         due("news(0, 30)", crow.news(0, 30), 1 + 8 + 32768);
         due("wind 1", work(crow, "wind 1;tie 2;rain 1;"), 3);
         due("often 0", crow.often(0) * 100 + crow.often(1), 1);
+        due("drains, two left", crow.drains(1), 4);
+        work(crow, "tie 2;rain 1;tie 2;");
         due("drains, one left", crow.drains(1), 4);
+        crow.undo();
         due("news of one LETTER, the others being empty", crow.news(0, 30), 0);
         due("no SEAMS of one", crow.stuff(), 0);
         due("its place", crow.stuffed(0), 2);
@@ -967,10 +972,14 @@ public final class PromiseTest {
         misused("told(12)", () -> crow.told(12));
         due("status(0)", crow.status(0), 2);
         due("status(1)", crow.status(1), 1);
+        misused("grown(-1)", () -> crow.grown(-1));
+        misused("stuffed(-1)", () -> crow.stuffed(-1));
+        misused("lies(0, -1)", () -> crow.lies(0, -1));
+        due("status(1) of places below 0", crow.status(1), 4);
         crow.image();
         misused("work(1)", () -> crow.work(1));
         crow.restore();
-        due("no IMAGE keeps it", crow.status(1), 2);
+        due("no IMAGE keeps it", crow.status(1), 5);
         crow.garden(0);
         due("no garden() either", crow.status(0), 2);
         for (int what : new int[] {2, -1, Integer.MIN_VALUE}) {
@@ -979,7 +988,7 @@ public final class PromiseTest {
         for (int what : new int[] {3, -1, Integer.MAX_VALUE}) {
             due("count(" + what + ")", crow.count(what), -1);
         }
-        due("those are no refusals", crow.status(1), 2);
+        due("those are no refusals", crow.status(1), 5);
         crow.image();
         crow.work(0);
         crow.work(0);
