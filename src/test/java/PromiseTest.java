@@ -1,78 +1,5 @@
-import java.util.NoSuchElementException;
-
 /** Promise by promise: ordinary inputs, the edges that the document names, and wrong inputs. */
-public final class PromiseTest {
-    private static int wrong = 0;
-    private static int checks = 0;
-
-    private interface Call {
-        long answer();
-    }
-
-    private static void due(String what, long got, long want) {
-        checks++;
-        if (got != want) {
-            wrong++;
-            System.out.println(what + " answered " + got + ", due is " + want);
-        }
-    }
-
-    private static String thrown(Call call) {
-        try {
-            return "answered " + call.answer();
-        } catch (RuntimeException e) {
-            return e.getClass().getSimpleName();
-        }
-    }
-
-    private static void refused(String what, String want, Call call) {
-        checks++;
-        String got = thrown(call);
-        if (!got.equals(want)) {
-            wrong++;
-            System.out.println(what + ": " + got + ", due is " + want);
-        }
-    }
-
-    private static void misused(String what, Call call) {
-        refused(what, "IllegalArgumentException", call);
-    }
-
-    private static void missing(String what, Call call) {
-        refused(what, "NoSuchElementException", call);
-    }
-
-    /** Feeds the text, and answers how many bytes it has. */
-    private static int fed(LetterScarecrow crow, String text) {
-        for (int at = 0; at < text.length(); at += 20) {
-            int[] five = new int[5];
-            for (int i = 0; i < 20; i++) {
-                int sign = at + i < text.length() ? text.charAt(at + i) : '?';
-                five[i / 4] = five[i / 4] << 8 | sign;
-            }
-            crow.feed(five[0], five[1], five[2], five[3], five[4]);
-        }
-        return text.length();
-    }
-
-    private static LetterScarecrow crow(String garden) {
-        LetterScarecrow crow = new LetterScarecrow();
-        due("no FAULT in " + garden, crow.garden(fed(crow, garden)) < 0 ? 1 : 0, 0);
-        return crow;
-    }
-
-    private static int law(LetterScarecrow crow, String text) {
-        return crow.law(fed(crow, text));
-    }
-
-    private static int work(LetterScarecrow crow, String text) {
-        return crow.work(fed(crow, text));
-    }
-
-    private static int book(LetterScarecrow crow, String text) {
-        return crow.book(fed(crow, text));
-    }
-
+public final class PromiseTest extends Checks {
     private static void gardenFault(String text, int kind, int place) {
         LetterScarecrow crow = crow("bed 7;letter 0 1 2;");
         due("garden " + text, crow.garden(fed(crow, text)), kind - 10);
@@ -461,28 +388,6 @@ public final class PromiseTest {
         due("back", crow.reader(0, 0) + crow.reader(0, 1), 0);
         due("all WORDS", crow.told(5), 16);
         due("no more", crow.undo(), -1);
-    }
-
-    private static long fingerprint(LetterScarecrow crow) {
-        long sum = 7;
-        for (int what = 0; what <= 8; what++) {
-            sum = sum * 31 + crow.told(what);
-        }
-        for (int letter = 0; letter < crow.told(1); letter++) {
-            sum = sum * 31 + crow.letter(letter, 2) * 2 + crow.letter(letter, 4);
-        }
-        for (int bed = 0; bed < crow.told(0); bed++) {
-            for (int k = 0; k < 13; k++) {
-                sum = sum * 31 + crow.lies(bed, k);
-            }
-        }
-        for (int reader = 0; reader < crow.told(2); reader++) {
-            sum = sum * 31 + crow.reader(reader, 0) * 65536 + crow.reader(reader, 1);
-        }
-        for (int k = 0; k < 61; k++) {
-            sum = sum * 31 + crow.grown(k);
-        }
-        return sum;
     }
 
     private static void tellings() {
@@ -1028,7 +933,6 @@ public final class PromiseTest {
         beginningAnew();
         edges();
         counting();
-        System.out.println(checks + " answers looked at, " + wrong + " not as due");
-        System.exit(wrong == 0 ? 0 : 1);
+        finish();
     }
 }
