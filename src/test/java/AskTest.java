@@ -263,6 +263,18 @@ public final class AskTest extends Checks {
         // the first one that is best at hand is no good: 0 ahead of 2 makes one SEAM, but 1 0 2 3 makes three
         stuffIs("bed 0;letter 0 1 2;letter 0 5 1;letter 0 2 7;letter 0 7 5;", 3, 0, 2, 3, 1);
         stuffIs("bed 0;letter 0 1 2;letter 0 3 1;letter 0 4 3;letter 0 5 4;letter 0 6 5;letter 0 7 6;", 5, 5, 4, 3, 2, 1, 0);
+        // behind 0 both others have no SEAM to come: the one that makes one with 0 goes ahead
+        stuffIs("bed 0;letter 0 1 2;letter 0 5 9;letter 0 2 7;", 1, 0, 2, 1);
+        // both that could stand behind 0 make one SEAM with it: the first of them does
+        stuffIs("bed 0;letter 0 1 2;letter 0 2 9;letter 0 2 8;", 1, 0, 1, 2);
+        stuffIs("bed 0;letter 0 0 3;letter 0 0;letter 0 3 0;", 2, 0, 2, 1);
+        LetterScarecrow unasked = crow("bed 0;letter 0 1 2;letter 0 3 1;");
+        due("stuffed(0) ahead of any stuff()", unasked.stuffed(0), 1);
+        work(unasked, "tie 0;rain 1;");
+        // left: 1 2, 1
+        due("stuffed(0) of what is left by now", unasked.stuffed(0) * 10 + unasked.stuffed(1), 10);
+        work(unasked, "rain 1;");
+        due("stuffed(1) of one that is left", unasked.stuffed(0) * 10 + unasked.stuffed(1), -1);
         LetterScarecrow crow = crow("bed 0;letter 0 1 2;letter 0 3 1;letter 0 2;");
         due("SEAMS", crow.stuff(), 2);
         work(crow, "tie 0;rain 1;");
@@ -270,6 +282,10 @@ public final class AskTest extends Checks {
         due("of what is left", crow.stuff(), 1);
         due("order", crow.stuffed(0) * 10 + crow.stuffed(1), 10);
         due("a LETTER without WORDS has no place", crow.stuffed(2), -1);
+        LetterScarecrow zero = crow("bed 0;letter 0 0 1;letter 0 1 0 4;");
+        work(zero, "tie 0;rain 1;");
+        due("WORD 0 is the next of one, and was the first of the other", zero.stuff(), 0);
+        due("both have places", zero.stuffed(0) * 10 + zero.stuffed(1), 1);
         work(crow, "tie 0;rain 20;");
         due("none is left", crow.stuff() * 10 + crow.stuffed(0), -1);
     }
@@ -301,6 +317,18 @@ public final class AskTest extends Checks {
         due("that where he is", one.tour(0), 1);
         work(one, "year;");
         due("nothing lies", one.tour(0), 0);
+        LetterScarecrow last = crow("bed 0;".repeat(6) + "letter 5 7;reader 4;");
+        work(last, "rain 1;");
+        due("in the last of six, of one LETTER", last.all(128), 32);
+        due("tour to the last of six", last.tour(0), 32);
+        due("often in the last of six", last.often(0) * 100 + last.often(1), 701);
+        due("seed of the last of six", last.seed(5, 63, 1) * 10 + last.seed(5, 63, 0), 10);
+        LetterScarecrow two = crow("bed 0;".repeat(6) + "letter 5 7;letter 4 7 6;reader 4;");
+        work(two, "rain 4;");
+        due("in the last two: of as few the least bits", two.all(128), 16);
+        due("seed of both: 1 each by 2", two.seed(5, 63, 2) * 10 + two.seed(4, 63, 2), 11);
+        due("seed of both: none by 1", two.seed(5, 63, 1) + two.seed(4, 63, 1), 0);
+        due("often in both", two.often(0) * 100 + two.often(1), 702);
         LetterScarecrow six = crow("bed 0;".repeat(6) + "letter 0 0;letter 1 1;letter 2 2;letter 3 3;letter 4 4;letter 5 5;reader 2;");
         work(six, "rain 1;");
         due("all six", six.tour(0), 63);
@@ -340,6 +368,13 @@ public final class AskTest extends Checks {
         fitsAre(full, "0 12;", 9, 21);
         fitsAre(full, "0 13;", 0, -1);
         fitsAre(full, "0 11;", 18, 1);
+        LetterScarecrow lines = crow("bed 0;".repeat(6) + "letter 5 1 2;");
+        fitsAre(lines, "0 16;1 16;2 16;3 16;4 16;5 2;", 8, 2);
+        lookIs(lines, "0 16;1 16;2 16;3 16;4 16;", 5, 8);
+        lookIs(lines, "5 2;4 16;3 16;2 16;1 16;0 16;", -1, -1);
+        fitsAre(lines, "5 1;", 1, 1);
+        fitsAre(lines, "", 9, 1);
+        fitsAre(lines, "4 16;", 9, 1);
         LetterScarecrow over = crow("bed 0;" + EIGHT + EIGHT + "letter 0 9;");
         law(over, "8 - letter * 4");
         work(over, "rain 1;");
@@ -347,6 +382,14 @@ public final class AskTest extends Checks {
         due("none is LOST", over.told(7), 0);
         fitsAre(over, "0 4;", 27, 1);
         fitsAre(over, "0 9;", 0, -1);
+        LetterScarecrow one = crow("bed 0;bed 0;letter 0 7;letter 1 8 9;");
+        work(one, "rain 1;");
+        // one WORD lies in each; of LETTER 0 none is left
+        fitsAre(one, "0 7;", 18, 1);
+        fitsAre(one, "0 16;", 0, -1);
+        fitsAre(one, "1 8;", 9, 1);
+        fitsAre(one, "1 9;", 9, 11);
+        fitsAre(one, "0 7;1 9;", 9, 11);
         LetterScarecrow bare = crow("bed 0;");
         fitsAre(bare, "0 16;", 0, -1);
         fitsAre(bare, "", 0, -1);
@@ -379,6 +422,13 @@ public final class AskTest extends Checks {
         lookIs(crow(""), "", -1, -1);
         lookIs(crow("bed 0;bed 0;"), "0 16;", 1, 0);
         lookIs(crow("bed 0;bed 0;letter 1 0;"), "0 16;", 1, 9);
+        sentence("whatever WORD lies last there then, or none");
+        LetterScarecrow one = crow("bed 0;bed 0;letter 0 7;letter 1 8 9;");
+        work(one, "rain 1;");
+        // BED 0: 7 by 18. BED 1: 8 by the nine of LETTER 0, 9 by those of LETTER 1
+        lookIs(one, "", 1, 9);
+        lookIs(one, "1 8;", 0, 9);
+        lookIs(one, "1 7;", 0, 0);
     }
 
     private static void podsAre(int n, int k, int q, long above, long below) {
@@ -514,6 +564,10 @@ public final class AskTest extends Checks {
         due("a tied one without WORDS", crow.coming(1, 0), 0);
         work(crow, "tie 1;tie 4;");
         due("tied no more", crow.coming(0, 0) * 10 + crow.coming(0, 1), 4);
+        LetterScarecrow zero = crow("bed 0;letter 0 0 1;letter 0 0;");
+        due("whose NEXT WORD is 0", zero.drains(0), 3);
+        work(zero, "rain 1;");
+        due("of two one is left", zero.drains(0), 1);
         due("of a BED to which none drains", crow("bed 0;").drains(0) + crow("bed 0;").coming(0, 1), 0);
     }
 

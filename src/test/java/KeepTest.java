@@ -107,6 +107,87 @@ public final class KeepTest extends Checks {
         due("restore()", crow.restore(), 2);
     }
 
+    private static final String WIDE = "bed 0;bed 1;bed 2;bed 3;bed 4;bed 5;"
+        + "letter 0 1 2 3 4;letter 1 5 6 7 8;letter 2 9 10 11 12;letter 3 13 14 15 0;letter 4 4 3 2 1;letter 5 8 7 6 5;";
+
+    /** Each GARDEN is read anew, whatever the ones ahead of it had, with a FAULT or without. */
+    private static void gardensInARow() {
+        sentence("The first n bytes of the TAPE are the GARDEN");
+        String most = WIDE + "reader 0;reader 1;reader 2;reader 3;reader 4;";
+        String few = "bed 30;letter 0 9 8;reader 0;";
+        LetterScarecrow crow = new LetterScarecrow();
+        String[] texts = {most, few, most, few, few, "bed 1;bed 2;", most, "", few, most};
+        for (String text : texts) {
+            due("garden " + text, garden(crow, text), text.split("letter", -1).length - 1);
+            due("BEDS of " + text, crow.told(0), text.split("bed", -1).length - 1);
+            due("READERS of " + text, crow.told(2), text.split("reader", -1).length - 1);
+            due("as of a new object by " + text, fingerprint(crow), fingerprint(crow(text)));
+            work(crow, "again 4[rain 20;];");
+            due("a FAULT behind " + text, garden(crow, most + "x"), -9);
+        }
+        sentence("nothing is tied, lies, was heard, grown or eaten");
+        work(crow, "again 4[rain 20;];year;");
+        due("three lie in each", crow.told(6), 18);
+        garden(crow, most);
+        for (int bed = 0; bed < 6; bed++) {
+            due("nothing lies in BED " + bed, crow.bed(bed, 1), 0);
+        }
+        due("nothing lies", crow.told(6), 0);
+    }
+
+    /** All BEDS, to their last WORD, are as they were. */
+    private static void wideOnes() {
+        sentence("is undone");
+        LetterScarecrow crow = crow(WIDE + "reader 0;reader 1;reader 2;reader 3;reader 4;");
+        work(crow, "again 2[rain 20;];");
+        long before = fingerprint(crow);
+        crow.image();
+        work(crow, "again 6[year;];again 5[tie 0;tie 1;tie 2;tie 3;tie 4;tie 5;];walk 0 5;walk 1 4;walk 2 3;walk 3 2;walk 4 1;");
+        due("all is gone", crow.told(6), 0);
+        due("undo()", crow.undo(), 1);
+        due("as it was", fingerprint(crow), before);
+        for (int bed = 0; bed < 6; bed++) {
+            due("the last WORD of BED " + bed, crow.lies(bed, 3), crow.word(bed, 3));
+            due("no other one", crow.lies(bed, 4), -1);
+        }
+        sentence("All is as in the latest IMAGE");
+        work(crow, "eat 0;eat 1;eat 2;eat 3;eat 4;eat 5;tie 5;");
+        due("restore()", crow.restore(), 0);
+        due("as it was", fingerprint(crow), before);
+        sentence("Asked, nothing stays changed");
+        crow.ahead(99, 0);
+        crow.rains(5, 0, 20);
+        crow.summer(3, 8, 48, 0);
+        crow.span(3, 10, 8, 48, 0, 0);
+        due("as it was", fingerprint(crow), before);
+        LetterScarecrow some = crow(WIDE + "reader 0;reader 1;reader 2;reader 3;reader 4;");
+        work(some, "rain 1;wind 30;");
+        long mixed = fingerprint(some);
+        work(some, "rain 1;wind 30;year;");
+        work(some, "again 4[rain 20;];wind 30;");
+        some.undo();
+        some.image();
+        some.undo();
+        due("some WORDS left, some heard", fingerprint(some), mixed);
+        for (int letter = 0; letter < 6; letter++) {
+            due("left of LETTER " + letter, some.letter(letter, 2), 3);
+        }
+        due("what the last READER heard", some.reader(4, 1), 4 + 8 + 64 + 128 + 1024 + 16384);
+        some.summer(3, 16, 1, 0);
+        some.rains(0, 15, 20);
+        due("nothing stays changed", fingerprint(some), mixed);
+        LetterScarecrow full = crow("bed 0;bed 0;bed 0;bed 0;bed 0;bed 0;letter 5 1 2 3 4 5 6 7 8;letter 5 9 10 11 12;");
+        law(full, "8");
+        work(full, "rain 1;");
+        long lying = fingerprint(full);
+        work(full, "eat 5;");
+        full.undo();
+        due("12 in the last BED", fingerprint(full), lying);
+        due("the 12th", full.lies(5, 11), 12);
+        due("a YEAR ahead", full.ahead(1, 0), 11);
+        due("the WORD at the last place", full.rains(5, 12, 1), 0);
+    }
+
     private static void otherTexts() {
         sentence("all but the TAPE stays");
         LetterScarecrow crow = crow(SOME);
@@ -349,6 +430,8 @@ public final class KeepTest extends Checks {
         asksOfNone();
         feeding();
         gardenAnew();
+        gardensInARow();
+        wideOnes();
         otherTexts();
         sixteen();
         faults();

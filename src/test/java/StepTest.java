@@ -257,6 +257,19 @@ public final class StepTest extends Checks {
         due("three", crow.told(11), 3);
         due("no fourth", crow.grown(3), -1);
         due("nothing lies", crow.told(6), 0);
+        LetterScarecrow full = crow("bed 0;bed 0;" + EIGHT + "letter 0 9 10 11 12;letter 1 13;");
+        law(full, "8");
+        does(full, "rain 1;year;", 2, 0);
+        lie(full, 0, 2, 3, 4, 5, 6, 7, 8, 9, 10, 11, 12);
+        due("BED 0 first, then BED 1", full.grown(0) * 100 + full.grown(1), 113);
+        does(full, "again 10[year;];", 10, 0);
+        lie(full, 0, 12);
+        lie(full, 1);
+        does(full, "year;", 1, 0);
+        for (int k = 2; k < 13; k++) {
+            due("grown(" + k + ")", full.grown(k), k);
+        }
+        due("all", full.told(11), 13);
         sentence("he is WET by half (cut); the YEAR is one more");
         LetterScarecrow wet = crow("");
         does(wet, "year;", 1, 0);

@@ -63,6 +63,11 @@ public final class TextTest extends Checks {
         sentence("A LAW is a text of up to 150 bytes");
         fine(LAW, "0+".repeat(74) + "07", 1);
         wrong(LAW, "0+".repeat(75), 1, 150);
+        lawIs("0+".repeat(74) + "07", 7);
+        lawIs("1-" + "0-".repeat(73) + "00", 1);
+        lawIs("1*".repeat(74) + "07", 7);
+        lawIs("7/" + "1/".repeat(73) + "01", 7);
+        lawIs("1+".repeat(3) + "0+".repeat(70) + "0001", 4);
         longest(LAW, "0+".repeat(74) + "07", 150, 1);
         wrong(LAW, "", 1, 0);
 
@@ -216,6 +221,13 @@ public final class TextTest extends Checks {
         lawIs("most[4,3]", 4);
         lawIs("most[4,4]", 4);
         wrong(LAW, "least[3]", 1, 7);
+        wrong(LAW, "least[1 2]", 1, 8);
+        wrong(LAW, "most[1(2)]", 1, 6);
+        wrong(LAW, "most[1,2", 1, 8);
+        wrong(LAW, "most[1,2)", 1, 8);
+        wrong(LAW, "most 1,2", 1, 5);
+        wrong(LAW, "(1,2)", 1, 2);
+        wrong(LAW, "(1]", 1, 2);
         wrong(LAW, "most[3,4,5]", 1, 8);
         wrong(LAW, "least[,4]", 1, 6);
         wrong(LAW, "most[3,]", 1, 7);
@@ -385,6 +397,13 @@ public final class TextTest extends Checks {
         sentence("of one the least");
         wrong(GARDEN, "bed 0;letter 0 1 2 3 4 5 6 7 8 16;", 2, 31);
         wrong(GARDEN, "bed 0;".repeat(5) + "bed 0 bed 0;", 1, 36);
+        // longer words are others: what can't stand there, not one too many
+        wrong(GARDEN, "bed 0;".repeat(6) + "beds 0;", 1, 36);
+        wrong(GARDEN, "bed 0;" + "letter 0 1;".repeat(6) + "letters 0 1;", 1, 72);
+        wrong(GARDEN, "bed 0;" + "reader 0;".repeat(5) + "readers 0;", 1, 51);
+        wrong(LAW, "((((((leasts[1,2]))))))", 1, 6);
+        wrong(LAW, "((((((mosta[1,2]))))))", 1, 6);
+        wrong(WORK, "again 1[".repeat(6) + "againz 1[];", 1, 48);
         wrong(LAW, "((((((1(1", 1, 7);
         wrong(LAW, "((((((1 least", 1, 8);
         wrong(WORK, "again 1[".repeat(6) + "year again", 1, 53);
